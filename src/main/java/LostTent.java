@@ -670,18 +670,14 @@ public final class LostTent {
             int best = NONE;
             int fewest = 0;
             for (int claimer = 0; claimer < claimers; claimer++) {
-                int worst = mostYears(thing, claimer, among);
+                int fitting = yearsFitting(thing, claimer);
+                int worst = Math.max(Integer.bitCount(among & fitting), Integer.bitCount(among & ~fitting));
                 if (best == NONE || worst < fewest) {
                     best = claimer;
                     fewest = worst;
                 }
             }
             return best;
-        }
-
-        private int mostYears(int thing, int claimer, int among) {
-            int fitting = yearsFitting(thing, claimer);
-            return Math.max(Integer.bitCount(among & fitting), Integer.bitCount(among & ~fitting));
         }
 
         private int yearsFitting(int thing, int claimer) {

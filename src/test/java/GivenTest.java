@@ -124,8 +124,9 @@ final class GivenTest {
 
     private static void matchOf(LostTent x, String name, int... want) {
         int[] what = {0, 1, 10, 11, 12};
-        long before = x.digest();
         for (int i = 0; i < 5; i++) DUE.due("match(" + what[i] + ") of " + name, x.match(what[i]), want[i]);
+        long before = x.digest();
+        for (int i = 0; i < 5; i++) DUE.due("match(" + what[i] + ") again", x.match(what[i]), want[i]);
         DUE.due("digest() behind match() of " + name, x.digest(), before);
     }
 
