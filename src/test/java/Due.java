@@ -7,6 +7,9 @@ final class Due {
     static final int[] WILD = {Integer.MIN_VALUE, -105, -104, -101, -2, -1, 1000, Integer.MAX_VALUE};
 
     private final String name;
+    private String sentence = "";
+    private int sentences;
+    private int answersToIt;
     private int answers;
     private int wrong;
 
@@ -14,11 +17,17 @@ final class Due {
         this.name = name;
     }
 
+    /** The sentence of the document that the answers from here on are about. */
+    void sentence(String words) {
+        closeSentence();
+        sentence = words;
+        sentences++;
+    }
+
     void due(String call, long got, long want) {
         answers++;
-        if (got == want) return;
-        wrong++;
-        if (wrong <= 20) System.out.println(name + ": " + call + " answered " + got + ", due is " + want);
+        answersToIt++;
+        if (got != want) tell(call + " answered " + got + ", due is " + want);
     }
 
     /** A call that is refused: the answer is due, and nothing may have changed by it. */
@@ -28,8 +37,21 @@ final class Due {
     }
 
     void end() {
-        System.out.println(name + ": " + answers + " answers, " + wrong + " not as due");
-        if (wrong != 0) System.exit(1);
+        closeSentence();
+        String asked = sentences == 0 ? "" : " on " + sentences + " sentences";
+        System.out.println(name + ": " + answers + " answers" + asked + ", " + wrong + " not as due");
+        if (wrong != 0 || answers == 0) System.exit(1);
+    }
+
+    private void closeSentence() {
+        if (sentences > 0 && answersToIt == 0) tell("nothing was asked");
+        answersToIt = 0;
+    }
+
+    private void tell(String fault) {
+        wrong++;
+        String about = sentence.isEmpty() ? "" : " [" + sentence + "]";
+        if (wrong <= 20) System.out.println(name + about + ": " + fault);
     }
 
     static LostTent written(String text) {
@@ -46,5 +68,22 @@ final class Due {
 
     static void write(LostTent tent, String text) {
         for (int i = 0; i < text.length(); i++) tent.letter(text.charAt(i));
+    }
+
+    /** Tries a text on a new object: of how many things its tent is, STATE if it is none. */
+    static int read(String text) {
+        return written(text).tent();
+    }
+
+    /** How wrong a thing is for a claimer, both told by their texts. */
+    static int wrongOf(String thing, String claimer) {
+        return pitched(thing + ",000;" + claimer).wrong(0, 0);
+    }
+
+    /** The years from one to another as bits. */
+    static int years(int from, int to) {
+        int bits = 0;
+        for (int year = from; year <= to; year++) bits |= 1 << year;
+        return bits;
     }
 }

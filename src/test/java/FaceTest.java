@@ -5,6 +5,7 @@ import java.lang.reflect.Method;
 import java.lang.reflect.Modifier;
 import java.nio.file.Files;
 import java.nio.file.Path;
+import java.util.Arrays;
 import java.util.Set;
 import java.util.TreeSet;
 import java.util.regex.Matcher;
@@ -68,14 +69,20 @@ final class FaceTest {
         DUE.due("how many constructors", constructors.length, 1);
         for (Class<?> inner : LostTent.class.getDeclaredClasses()) {
             DUE.due(inner + " is static", inner.getModifiers() & Modifier.STATIC, Modifier.STATIC);
-            DUE.due(inner + " has how many fields", Math.max(20, inner.getDeclaredFields().length), 20);
+            long fields = Arrays.stream(inner.getDeclaredFields())
+                    .filter(field -> !Modifier.isStatic(field.getModifiers())).count();
+            DUE.due(inner + " has how many fields", Math.max(20, fields), 20);
         }
     }
 
+    /** Words that LANGUAGE.md leaves out; texts and comments do not count. */
     private static void words() throws IOException {
-        String text = Files.readString(SOURCE).replaceAll("(?s)/\\*.*?\\*/", "").replaceAll("//[^\n]*", "");
+        String text = Files.readString(SOURCE).replaceAll("(?s)/\\*.*?\\*/", "").replaceAll("//[^\n]*", "")
+                .replaceAll("\"[^\"\n]*\"", "").replaceAll("'[^'\n]*'", "")
+                .replaceAll("import java\\.util\\.(ArrayList|Arrays|Iterator|List);", "")
+                .replaceAll("System\\.arraycopy", "").replaceAll("(case|default)\\b[^;{}\n]*->", "");
         Pattern forbidden = Pattern.compile("\\b(throw|throws|try|catch|finally|synchronized|assert|import|package"
-                + "|volatile|transient|native|strictfp|System|Thread|Object|equals|hashCode|toString|null)\\b|->|::|@");
+                + "|volatile|transient|native|strictfp|System|Thread|Random|Scanner|Runtime|\\w*Exact)\\b|->|::");
         Matcher matcher = forbidden.matcher(text);
         while (matcher.find()) DUE.due("a word that is not for LostTent.java: " + matcher.group(), 1, 0);
         DUE.due("letters above 127", text.chars().filter(c -> c > 127).count(), 0);
