@@ -15,6 +15,20 @@ final class Due {
 
     Due(String name) {
         this.name = name;
+        Thread watch = new Thread(this::haltIfItTakesTooLong);
+        watch.setDaemon(true);
+        watch.start();
+    }
+
+    /** No call may fail to end: a test that is not through by then has failed. */
+    private void haltIfItTakesTooLong() {
+        try {
+            Thread.sleep(120_000);
+        } catch (InterruptedException e) {
+            return;
+        }
+        System.out.println(name + " [" + sentence + "]: a call does not end");
+        Runtime.getRuntime().halt(1);
     }
 
     /** The sentence of the document that the answers from here on are about. */

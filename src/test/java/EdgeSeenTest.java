@@ -277,8 +277,9 @@ final class EdgeSeenTest {
         x.see(1, 1, false);
         x.image();
         x.forget();
-        x.see(1, 2, true);
-        x.see(0, 1, false);
+        // another thing, another claimer and the other way, each at the place of one that is kept
+        x.see(1, 2, false);
+        x.see(0, 0, true);
         x.see(0, 2, true);
         x.restore();
         DUE.due("count(8)", x.count(8), 2);

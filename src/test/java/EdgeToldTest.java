@@ -96,6 +96,13 @@ final class EdgeToldTest {
         fit.give(1, 0);
         fit.give(0, 1);
         DUE.due("count(4) of what fits", fit.count(4), 2);
+        LostTent five = Due.pitched("111,222,333,444,000;c954,w000");
+        DUE.due("count(4) of five, when none is given", five.count(4), 0);
+        five.give(4, 1);
+        DUE.due("count(4) of five, the last given rightly", five.count(4), 0);
+        five.give(0, 0);
+        DUE.due("count(4) of five, the first given wrongly", five.count(4), 12);
+        DUE.due("count(3) of five", five.count(3), 1);
     }
 
     private static void mondaysThatAreOver() {

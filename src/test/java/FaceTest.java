@@ -5,7 +5,6 @@ import java.lang.reflect.Method;
 import java.lang.reflect.Modifier;
 import java.nio.file.Files;
 import java.nio.file.Path;
-import java.util.Arrays;
 import java.util.Set;
 import java.util.TreeSet;
 import java.util.regex.Matcher;
@@ -19,6 +18,7 @@ final class FaceTest {
     public static void main(String[] args) throws IOException {
         face();
         nothingElse();
+        classesInside();
         words();
         noStateBetweenObjects();
         DUE.end();
@@ -67,11 +67,30 @@ final class FaceTest {
         }
         Constructor<?>[] constructors = LostTent.class.getDeclaredConstructors();
         DUE.due("how many constructors", constructors.length, 1);
-        for (Class<?> inner : LostTent.class.getDeclaredClasses()) {
-            DUE.due(inner + " is static", inner.getModifiers() & Modifier.STATIC, Modifier.STATIC);
-            long fields = Arrays.stream(inner.getDeclaredFields())
-                    .filter(field -> !Modifier.isStatic(field.getModifiers())).count();
-            DUE.due(inner + " has how many fields", Math.max(20, fields), 20);
+    }
+
+    private static void classesInside() {
+        Class<?>[] inside = LostTent.class.getDeclaredClasses();
+        DUE.due("how many classes, some twelve at most", Math.max(12, inside.length), 12);
+        for (Class<?> inner : inside) {
+            int modifiers = inner.getModifiers();
+            DUE.due(inner + " is static", modifiers & Modifier.STATIC, Modifier.STATIC);
+            DUE.due(inner + " is private or package-visible", modifiers & (Modifier.PUBLIC | Modifier.PROTECTED), 0);
+            sizes(inner);
+        }
+        sizes(LostTent.class);
+    }
+
+    private static void sizes(Class<?> one) {
+        int fields = 0;
+        for (Field field : one.getDeclaredFields()) {
+            int modifiers = field.getModifiers();
+            if (!Modifier.isStatic(modifiers)) fields++;
+            else DUE.due(field + " is final", modifiers & Modifier.FINAL, Modifier.FINAL);
+        }
+        DUE.due(one + " has some twenty fields at most", Math.max(20, fields), 20);
+        for (Method method : one.getDeclaredMethods()) {
+            DUE.due(method + " takes seven at most", Math.max(7, method.getParameterCount()), 7);
         }
     }
 

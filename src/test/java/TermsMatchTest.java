@@ -85,6 +85,12 @@ final class TermsMatchTest {
         matchOf("700,954;n300", 1, 4, 0, NONE, NONE);
         matchOf("800,954;n300", 0, 0, NONE, NONE, NONE);
         matchOf("954,954;c000,w000,l000", 0, 0, NONE, NONE, NONE);
+        // the last thing of five and the first one do not mix
+        matchOf("000,954,954,954,954;l333,c000", 1, 0, NONE, 0, NONE);
+        matchOf("000,954,954,954,954;l333,l333,c000", 1, 0, NONE, NONE, 0);
+        matchOf("000,954,954,954,954;c000,l333,c000", 1, 0, NONE, NONE, 0);
+        matchOf("954,954,954,954,000;c000,l333", 1, 0, 4, NONE, NONE);
+        matchOf("954,954,954,954,000;l333,c000,l333", 1, 0, NONE, 4, NONE);
     }
 
     private static void asManyAsCanBe() {
