@@ -1,4 +1,4 @@
-/** Promises 1 to 9, each sentence at its bounds: too small, too large, empty, full. */
+/** Promises 1 to 5, each sentence at its bounds: too small, too large, empty, full. */
 final class EdgeTentTest {
     private static final Due DUE = new Due("EdgeTentTest");
     private static final int UNKNOWN = Due.UNKNOWN, OUTSIDE = Due.OUTSIDE,
